@@ -1,0 +1,40 @@
+/** Promise 1: a new object; and the constant. */
+public final class NewObjectTest {
+    public static void main(String[] args) {
+        bothMachinesAreAsAtFirst();
+        nothingIsThere();
+        objectsShareNothing();
+        Probe.due("NONE", TwinKeepers.NONE, -1);
+        Probe.end();
+    }
+
+    private static void bothMachinesAreAsAtFirst() {
+        TwinKeepers x = new TwinKeepers();
+        int[] want = {0, 0, 0, 8, 0};
+        for (int machine = 0; machine < 2; machine++) {
+            for (int what = 0; what < want.length; what++) {
+                Probe.due("state(" + machine + ", " + what + ")", x.state(machine, what), want[what]);
+            }
+            Probe.due("row(" + machine + ")", Probe.rowOf(x, machine), Probe.many('\0', 8));
+        }
+        Probe.due("make(0, 1) of new ones", x.make(0, 1), false);
+    }
+
+    private static void nothingIsThere() {
+        TwinKeepers x = new TwinKeepers();
+        Probe.due("place()", x.place(), 0);
+        Probe.refused("byteAt(0)", Probe.INDEX, x, y -> y.byteAt(0));
+        Probe.refused("session(0, 0, 0)", Probe.INDEX, x, y -> y.session(0, 0, 0));
+        Probe.refused("key(1, 0, 0)", Probe.INDEX, x, y -> y.key(1, 0, 0));
+        Probe.due("the first feed", x.feed(5, 1), 1);
+    }
+
+    private static void objectsShareNothing() {
+        TwinKeepers one = new TwinKeepers();
+        TwinKeepers other = new TwinKeepers();
+        one.open(0, 5);
+        Probe.put(one, 0, 6, 5, 1, "key", "value");
+        one.feed(1, 8);
+        Probe.due("the other object", Probe.picture(other), Probe.picture(new TwinKeepers()));
+    }
+}
