@@ -89,10 +89,35 @@ public final class MakeTest {
         Probe.put(x, 0, 9, 1, 10, "kex", "abc");
         Probe.put(x, 1, 9, 1, 10, "key", "abc");
         Probe.due("keys and answers differ", x.make(0, 1), true);
+        keysAloneDiffer();
         Probe.put(x, 0, 10, 77, 10, "kex", "abc");
         Probe.due("a place alone is not of the row", x.make(0, 1), false);
         Probe.due("but it comes along", x.state(1, 4), 10);
         sessionsAloneDiffer();
+    }
+
+    /** Sessions with the same answers, 0, beside other maps. */
+    private static void keysAloneDiffer() {
+        TwinKeepers x = new TwinKeepers();
+        x.open(0, 1);
+        x.open(1, 1);
+        Probe.put(x, 0, 2, 1, 1, "a", "v");
+        Probe.remove(x, 1, 2, 1, 1, "a");
+        Probe.due("there are more keys", x.make(0, 1), true);
+        Probe.remove(x, 0, 3, 1, 2, "b");
+        Probe.put(x, 1, 3, 1, 2, "b", "v");
+        Probe.due("there are fewer keys", x.make(0, 1), true);
+        Probe.due("the key that was more is gone", x.state(1, 1), 1);
+        Probe.put(x, 0, 4, 1, 3, "c", "v");
+        Probe.put(x, 1, 4, 1, 3, "d", "v");
+        Probe.due("keys alone differ", x.make(0, 1), true);
+        Probe.put(x, 0, 5, 1, 4, "e", "v");
+        Probe.put(x, 1, 5, 1, 4, "e", "w");
+        Probe.due("a value alone differs", x.make(0, 1), true);
+        Probe.put(x, 0, 6, 1, 5, "f", "g");
+        Probe.put(x, 1, 6, 1, 5, "fg", "");
+        Probe.due("where a key ends differs", x.make(0, 1), true);
+        Probe.due("nothing differs", x.make(1, 0), false);
     }
 
     private static void sessionsAloneDiffer() {

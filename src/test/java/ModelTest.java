@@ -198,7 +198,7 @@ public final class ModelTest {
         try {
             return String.valueOf(realCall(name, a));
         } catch (RuntimeException e) {
-            return e.getClass().getSimpleName();
+            return Probe.named(e);
         }
     }
 

@@ -65,9 +65,16 @@ final class Probe {
         try {
             act.on(x);
         } catch (RuntimeException e) {
-            return e.getClass().getSimpleName();
+            return named(e);
         }
         return "nothing";
+    }
+
+    /** The exception's name; that of one which the program has not thrown itself is marked, so that none is due. */
+    static String named(RuntimeException e) {
+        StackTraceElement[] trace = e.getStackTrace();
+        boolean own = trace.length > 0 && trace[0].getClassName().startsWith("TwinKeepers");
+        return e.getClass().getSimpleName() + (own ? "" : " of the machine");
     }
 
     static void end() {
