@@ -623,6 +623,8 @@ public final class TwinKeepers {
     /** A row of bytes that is used again and again; its room grows only for the row of a machine. */
     private static final class Row {
         private static final int FIRST_ROOM = 256;
+        // Above 8 + 16 * (18 + 101) + 128 * 3 + 700 * 16 bytes, so that no row of a machine is cut off.
+        private static final int MOST_ROOM = 16384;
 
         byte[] bytes = new byte[FIRST_ROOM];
         int size = 0;
@@ -648,11 +650,13 @@ public final class TwinKeepers {
         }
 
         private void addByte(byte one) {
-            if (size >= bytes.length) {
+            if (size >= bytes.length && bytes.length < MOST_ROOM) {
                 bytes = Arrays.copyOf(bytes, 2 * bytes.length);
             }
-            bytes[size] = one;
-            size++;
+            if (size < bytes.length) {
+                bytes[size] = one;
+                size++;
+            }
         }
     }
 }

@@ -9,7 +9,7 @@ public final class ByteAtTest {
     }
 
     private static void allBytes() {
-        TwinKeepers x = new TwinKeepers();
+        Keeper x = new Keeper();
         x.open(0, 1);
         for (int from = 0; from < 256; from += 64) {
             StringBuilder value = new StringBuilder();
@@ -35,7 +35,7 @@ public final class ByteAtTest {
     }
 
     private static void aShorterResultHidesALongerOne() {
-        TwinKeepers x = new TwinKeepers();
+        Keeper x = new Keeper();
         x.open(0, 1);
         x.row(0);
         Probe.due("byteAt(25)", x.byteAt(25), 0);
@@ -48,7 +48,7 @@ public final class ByteAtTest {
     }
 
     private static void whichCallsMakeAResult() {
-        TwinKeepers x = new TwinKeepers();
+        Keeper x = new Keeper();
         x.open(0, 1);
         Probe.put(x, 0, 2, 1, 5, "k", "v");
         Probe.due("behind run", Probe.result(x), "\0");

@@ -9,7 +9,7 @@ public final class ClearTest {
         Probe.end();
     }
 
-    private static void fill(TwinKeepers x, int machine) {
+    private static void fill(Keeper x, int machine) {
         x.open(machine, 1);
         Probe.put(x, machine, 2, 1, 1, "a", "one");
         Probe.put(x, machine, 3, 1, 2, "b", "two");
@@ -19,7 +19,7 @@ public final class ClearTest {
     private static void asAtFirstButForThePlaces() {
         for (int machine = 0; machine < 2; machine++) {
             int m = machine;
-            TwinKeepers x = new TwinKeepers();
+            Keeper x = new Keeper();
             fill(x, m);
             Probe.due("clear", x.clear(m), 2);
             int[] want = {0, 0, 0, 8, 9};
@@ -37,7 +37,7 @@ public final class ClearTest {
     }
 
     private static void howManyKeys() {
-        TwinKeepers x = new TwinKeepers();
+        Keeper x = new Keeper();
         Probe.due("clear of a new one", x.clear(0), 0);
         x.open(0, 1);
         Probe.due("clear without keys", x.clear(0), 0);
@@ -51,7 +51,7 @@ public final class ClearTest {
     }
 
     private static void tapeResultAndPlaceStay() {
-        TwinKeepers x = new TwinKeepers();
+        Keeper x = new Keeper();
         fill(x, 0);
         Probe.get(x, 0, "b");
         x.feed(1, 4);
@@ -62,7 +62,7 @@ public final class ClearTest {
     }
 
     private static void theOtherMachineStays() {
-        TwinKeepers x = new TwinKeepers();
+        Keeper x = new Keeper();
         fill(x, 0);
         fill(x, 1);
         String row = Probe.rowOf(x, 1);

@@ -5,11 +5,13 @@ public final class FeedTest {
         onlySoManyBytesCome();
         wrongCountsAreRefused();
         threeHundredAndNoMore();
+        eachCountUpToThreeHundred();
+        onlyTheTapeChanges();
         Probe.end();
     }
 
     private static void lowestBytesComeFirst() {
-        TwinKeepers x = new TwinKeepers();
+        Keeper x = new Keeper();
         x.open(0, 1);
         Probe.due("feed of 8", x.feed(0x8070605040302010L, 8), 8);
         Probe.due("feed of 2", x.feed(0xfffe, 2), 10);
@@ -20,7 +22,7 @@ public final class FeedTest {
 
     private static void onlySoManyBytesCome() {
         for (int n = 1; n <= 8; n++) {
-            TwinKeepers x = new TwinKeepers();
+            Keeper x = new Keeper();
             x.open(0, 1);
             Probe.due("feed(-2, " + n + ")", x.feed(-2L, n), n);
             x.run(0, 2, 1, 1, 8 * n);
@@ -38,7 +40,7 @@ public final class FeedTest {
         }
     }
 
-    private static void fill(TwinKeepers x) {
+    private static void fill(Keeper x) {
         for (int i = 0; i < 37; i++) {
             x.feed(i, 8);
         }
@@ -48,7 +50,7 @@ public final class FeedTest {
     private static void threeHundredAndNoMore() {
         Probe.refusedAndSame("feed(0, 1) on a full tape", Probe.STATE, FeedTest::fill, x -> x.feed(0, 1));
         Probe.refusedAndSame("feed(0, 8) on a full tape", Probe.STATE, FeedTest::fill, x -> x.feed(0, 8));
-        TwinKeepers x = new TwinKeepers();
+        Keeper x = new Keeper();
         for (int i = 1; i <= 37; i++) {
             Probe.due("feed", x.feed(i, 8), 8 * i);
         }
@@ -56,5 +58,32 @@ public final class FeedTest {
         Probe.due("feed(0, 3) behind 296", x.feed(0, 3), 299);
         Probe.refused("feed(0, 2) behind 299", Probe.STATE, x, y -> y.feed(0, 2));
         Probe.due("feed(0, 1) behind 299", x.feed(0, 1), 300);
+    }
+
+    /** "IllegalStateException, when there would be more than 300": up to 300 and up to 301, by each count. */
+    private static void eachCountUpToThreeHundred() {
+        for (int count = 1; count <= 8; count++) {
+            int n = count;
+            Keeper x = new Keeper();
+            Probe.feedText(x, Probe.many('t', 300 - n));
+            Probe.due("feed of " + n + " up to 300", x.feed(0, n), 300);
+            Probe.refusedAndSame("feed of " + n + " up to 301", Probe.STATE, y -> {
+                y.open(0, 5);
+                Probe.feedText(y, Probe.many('t', 301 - n));
+            }, y -> y.feed(0, n));
+        }
+    }
+
+    private static void onlyTheTapeChanges() {
+        Keeper x = new Keeper();
+        Keeper y = new Keeper();
+        for (Keeper each : new Keeper[] {x, y}) {
+            each.open(0, 5);
+            Probe.put(each, 0, 6, 5, 1, "k", "v");
+            Probe.get(each, 0, "k");
+        }
+        x.feed(-1, 8);
+        Probe.emptyTape(x);
+        Probe.due("the picture behind feed()", Probe.picture(x), Probe.picture(y));
     }
 }

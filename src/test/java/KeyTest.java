@@ -8,7 +8,7 @@ public final class KeyTest {
         Probe.end();
     }
 
-    private static void fill(TwinKeepers x) {
+    private static void fill(Keeper x) {
         x.open(0, 1);
         Probe.put(x, 0, 2, 1, 1, "\u00ffz", "last");
         Probe.put(x, 0, 3, 1, 2, "a", "first");
@@ -16,14 +16,14 @@ public final class KeyTest {
         x.feed(1, 2);
     }
 
-    private static void is(TwinKeepers x, int machine, int k, int what, String want) {
+    private static void is(Keeper x, int machine, int k, int what, String want) {
         String call = "key(" + machine + ", " + k + ", " + what + ")";
         Probe.due(call, x.key(machine, k, what), want.length());
         Probe.due("result of " + call, Probe.result(x), want);
     }
 
     private static void keysAndValues() {
-        TwinKeepers x = new TwinKeepers();
+        Keeper x = new Keeper();
         fill(x);
         is(x, 0, 0, 0, "a");
         is(x, 0, 0, 1, "first");
@@ -36,7 +36,7 @@ public final class KeyTest {
     }
 
     private static void edgesOfSizes() {
-        TwinKeepers x = new TwinKeepers();
+        Keeper x = new Keeper();
         x.open(1, 1);
         for (int i = 0; i < 128; i++) {
             Probe.put(x, 1, 2 + i, 1, 1 + i, "" + (char) (255 - i), "" + (char) i);
@@ -46,7 +46,7 @@ public final class KeyTest {
         is(x, 1, 127, 0, "\u00ff");
         is(x, 1, 127, 1, "\0");
         Probe.refused("key(1, 128, 0)", Probe.INDEX, x, y -> y.key(1, 128, 0));
-        TwinKeepers y = new TwinKeepers();
+        Keeper y = new Keeper();
         y.open(0, 1);
         Probe.put(y, 0, 2, 1, 1, Probe.many('k', 32), Probe.many('v', 100));
         is(y, 0, 0, 0, Probe.many('k', 32));
@@ -70,7 +70,7 @@ public final class KeyTest {
     }
 
     private static void onlyTheResultChanges() {
-        TwinKeepers x = new TwinKeepers();
+        Keeper x = new Keeper();
         fill(x);
         String row = Probe.rowOf(x, 0);
         x.key(0, 0, 1);

@@ -12,7 +12,7 @@ public final class MakeTest {
         Probe.end();
     }
 
-    private static void fill(TwinKeepers x, int machine) {
+    private static void fill(Keeper x, int machine) {
         x.open(machine, 1);
         x.open(machine, 2);
         Probe.put(x, machine, 3, 1, 4, "key", "one");
@@ -23,7 +23,7 @@ public final class MakeTest {
     private static void oneBecomesTheOther() {
         for (int from = 0; from < 2; from++) {
             int to = 1 - from;
-            TwinKeepers x = new TwinKeepers();
+            Keeper x = new Keeper();
             fill(x, from);
             String row = Probe.rowOf(x, from);
             x.open(to, 1);
@@ -46,7 +46,7 @@ public final class MakeTest {
     }
 
     private static void theyAreApartAfterwards() {
-        TwinKeepers x = new TwinKeepers();
+        Keeper x = new Keeper();
         fill(x, 0);
         x.make(0, 1);
         String row = Probe.rowOf(x, 0);
@@ -62,7 +62,7 @@ public final class MakeTest {
     }
 
     private static void differs(String what, Probe.Act act) {
-        TwinKeepers x = new TwinKeepers();
+        Keeper x = new Keeper();
         fill(x, 0);
         x.make(0, 1);
         act.on(x);
@@ -80,7 +80,7 @@ public final class MakeTest {
         differs("a key", x -> Probe.put(x, 0, 7, 1, 6, "kez", "two"));
         differs("clear of from", x -> x.clear(0));
         differs("clear of to", x -> x.clear(1));
-        TwinKeepers x = new TwinKeepers();
+        Keeper x = new Keeper();
         fill(x, 0);
         x.make(0, 1);
         Probe.put(x, 0, 8, 1, 9, "key", "abc");
@@ -98,7 +98,7 @@ public final class MakeTest {
 
     /** Sessions with the same answers, 0, beside other maps. */
     private static void keysAloneDiffer() {
-        TwinKeepers x = new TwinKeepers();
+        Keeper x = new Keeper();
         x.open(0, 1);
         x.open(1, 1);
         Probe.put(x, 0, 2, 1, 1, "a", "v");
@@ -121,7 +121,7 @@ public final class MakeTest {
     }
 
     private static void sessionsAloneDiffer() {
-        TwinKeepers x = new TwinKeepers();
+        Keeper x = new Keeper();
         x.open(0, 1);
         x.open(1, 2);
         Probe.put(x, 0, 5, 1, 0, "k", "");
@@ -147,7 +147,7 @@ public final class MakeTest {
     }
 
     private static void greatestPlaces() {
-        TwinKeepers x = new TwinKeepers();
+        Keeper x = new Keeper();
         x.open(0, 100);
         x.open(1, 40);
         Probe.due("make(1, 0)", x.make(1, 0), true);
@@ -161,7 +161,7 @@ public final class MakeTest {
     }
 
     private static void placesGoOnThroughMakes() {
-        TwinKeepers x = new TwinKeepers();
+        Keeper x = new Keeper();
         x.open(0, 500);
         x.clear(0);
         Probe.due("make of empty ones", x.make(0, 1), false);
@@ -171,7 +171,7 @@ public final class MakeTest {
     }
 
     private static void bothOne() {
-        TwinKeepers x = new TwinKeepers();
+        Keeper x = new Keeper();
         fill(x, 1);
         String row = Probe.rowOf(x, 1);
         Probe.due("make(1, 1)", x.make(1, 1), false);
@@ -182,7 +182,7 @@ public final class MakeTest {
     }
 
     private static void tapeResultAndPlaceStay() {
-        TwinKeepers x = new TwinKeepers();
+        Keeper x = new Keeper();
         fill(x, 0);
         Probe.get(x, 0, "key");
         x.open(1, 77);

@@ -6,36 +6,101 @@ import java.util.NavigableMap;
 import java.util.SortedMap;
 import java.util.TreeMap;
 
-/** Runs of calls from fixed seeds, each answer compared with that of a plain model of the document. */
+/**
+ * Runs of calls from fixed seeds, each answer compared with that of a plain model of the document: mixed ones, ones
+ * about the limit of 128 keys, and, beyond the calls that the document binds, ones about that of 700 units.
+ */
 public final class ModelTest {
-    private static final int RUNS = 1500;
-    private static final int STEPS = 512;
+    private static final int MIXED_RUNS = 4000;
+    private static final int RUNS_WITH_ALL_KEYS = 400;
+    private static final int RUNS_WITH_ALL_UNITS = 60;
+    private static final int BOUND_CALLS = 512;
+    private static final int CALLS_WITH_ALL_UNITS = 4000;
+    // No step makes more calls (its bytes, itself, a look at its result), nor does the ending.
+    private static final int MOST_CALLS_OF_A_STEP = 40;
+    private static final int CALLS_OF_THE_ENDING = 41;
 
-    private final TwinKeepers real = new TwinKeepers();
+    private final Keeper real;
     private final Model model = new Model();
     private final List<String> history = new ArrayList<>();
     private final int alphabet;
-    private final int longest;
+    private final int longestKey;
+    private final int longestValue;
+    private boolean full = false;
     private long seed;
 
-    private ModelTest(long seed) {
+    private ModelTest(Keeper real, long seed, int alphabet, int longestKey, int longestValue) {
+        this.real = real;
         this.seed = seed * 7919 + 17;
-        alphabet = seed % 3 == 0 ? 2 : seed % 3 == 1 ? 40 : 256;
-        longest = seed % 2 == 0 ? 3 : 40;
+        this.alphabet = alphabet;
+        this.longestKey = longestKey;
+        this.longestValue = longestValue;
     }
 
     public static void main(String[] args) {
-        for (int run = 0; run < RUNS; run++) {
-            ModelTest test = new ModelTest(run);
-            for (int i = 0; i < STEPS; i++) {
-                if (!test.step()) {
-                    System.out.println("run " + run + ": " + String.join("; ", test.history));
-                    Probe.end();
-                }
-            }
-            Probe.due("the picture behind run " + run, Probe.picture(test.real), test.model.picture());
+        int[] alphabets = {2, 40, 256};
+        for (int run = 0; run < MIXED_RUNS; run++) {
+            int longest = run % 2 == 0 ? 3 : 32;
+            new ModelTest(new Keeper(), run, alphabets[run % 3], longest, longest).go(BOUND_CALLS);
+        }
+        for (int run = 0; run < RUNS_WITH_ALL_KEYS; run++) {
+            ModelTest test = new ModelTest(new Keeper(), run, 256, 1, 1);
+            test.need(test.fill(0));
+            test.go(BOUND_CALLS);
+        }
+        for (int run = 0; run < RUNS_WITH_ALL_UNITS; run++) {
+            ModelTest test = new ModelTest(Keeper.beyondTheBoundCalls(), run, 256, 32, 100);
+            test.need(test.fill(80));
+            test.go(CALLS_WITH_ALL_UNITS);
         }
         Probe.end();
+    }
+
+    private void go(int calls) {
+        while (history.size() <= calls - MOST_CALLS_OF_A_STEP - CALLS_OF_THE_ENDING) {
+            need(step());
+        }
+        need(ending());
+    }
+
+    private void need(boolean right) {
+        if (!right) {
+            System.out.println(String.join("; ", history));
+            Probe.end();
+        }
+    }
+
+    /** Machine 0 up to where few PUTs more are too many. */
+    private boolean fill(int shortestValue) {
+        boolean right = same("open", 0, 1);
+        Machine m = model.machines[0];
+        for (int i = 0; right && m.map.size() < 127 && m.units() < 692; i++) {
+            byte[] key = bytes(1 + below(longestKey));
+            key[0] = (byte) (77 * i);
+            byte[] value = bytes(shortestValue == 0 ? 0 : shortestValue + below(101 - shortestValue));
+            right = feedAll(joined(key, value)) && same("run", 0, 2 + i, 1, 1 + i, 8 * key.length);
+        }
+        full = true;
+        return right;
+    }
+
+    /** Both machines as far as so few calls can tell. */
+    private boolean ending() {
+        boolean right = same("place") && look();
+        for (int machine = 0; machine < 2; machine++) {
+            for (int what = 0; what < 5; what++) {
+                right = right && same("state", machine, what);
+            }
+            right = right && same("row", machine) && look() && look() && look();
+        }
+        return right;
+    }
+
+    /** Of the result the first byte, one of all, the last one and the first that is not there. */
+    private boolean look() {
+        int size = model.result.length;
+        return same("byteAt", 0) && same("byteAt", below(size + 1)) && same("byteAt", size - 1)
+                && same("byteAt", size);
     }
 
     private int below(int bound) {
@@ -84,27 +149,28 @@ public final class ModelTest {
             return sameFeed(seed, below(12) - 1);
         }
         if (chance < 77) {
-            return same("row", machine());
+            return same("row", machine()) && look();
         }
         if (chance < 80) {
-            return same("make", machine(), machine());
+            return full && below(2) == 0 ? same("make", 0, 1) : same("make", machine(), full ? 1 : machine());
         }
         if (chance < 81) {
-            return same("clear", machine());
+            return full || same("clear", machine());
         }
         if (chance < 86) {
             return same("session", machine(), below(18) - 1, below(7) - 1);
         }
-        if (chance < 90) {
-            return same("key", machine(), below(20) - 1, below(30) == 0 ? below(5) - 2 : below(2));
+        if (chance < 92) {
+            return same("key", machine(), someK(), below(30) == 0 ? below(5) - 2 : below(2)) && look();
         }
-        if (chance < 93) {
+        if (chance < 97) {
             return same("state", machine(), below(7) - 1);
         }
-        if (chance < 96) {
-            return same("place");
-        }
-        return same("byteAt", below(40) - 1);
+        return same("place");
+    }
+
+    private int someK() {
+        return below(Math.max(model.machines[0].map.size(), model.machines[1].map.size()) + 2) - 1;
     }
 
     private byte[] bytes(int size) {
@@ -120,11 +186,11 @@ public final class ModelTest {
         if (!m.map.isEmpty() && below(2) == 0) {
             return new ArrayList<>(m.map.keySet()).get(below(m.map.size()));
         }
-        return bytes(below(40) == 0 ? below(40) : 1 + below(Math.min(longest, 32)));
+        return bytes(below(40) == 0 ? below(40) : 1 + below(longestKey));
     }
 
     private byte[] someValue() {
-        return bytes(below(40) == 0 ? 90 + below(15) : below(longest));
+        return bytes(below(40) == 0 ? 90 + below(15) : below(longestValue));
     }
 
     private boolean feedAll(byte[] bytes) {
@@ -142,7 +208,7 @@ public final class ModelTest {
 
     private boolean command() {
         int machine = machine();
-        int operation = below(40) == 0 ? below(8) : below(3);
+        int operation = below(40) == 0 ? below(8) : full && below(3) > 0 ? Probe.PUT : below(3);
         byte[] key = someKey(machine);
         byte[] expected = {};
         if (operation == Probe.SWAP || below(60) == 0) {
@@ -156,7 +222,8 @@ public final class ModelTest {
         }
         int session = sessionFor(machine);
         return feedAll(joined(key, expected, value))
-                && same("run", machine, placeFor(machine), session, serialFor(machine, session), shape);
+                && same("run", machine, placeFor(machine), session, serialFor(machine, session), shape)
+                && (below(3) > 0 || look());
     }
 
     private boolean reading() {
@@ -165,7 +232,7 @@ public final class ModelTest {
         byte[] key = someKey(machine);
         byte[] second = kind == Probe.COUNT || below(40) == 0 ? someKey(machine) : new byte[0];
         int shape = kind + 8 * key.length + (below(60) == 0 ? 512 : 0);
-        return feedAll(joined(key, second)) && same("read", machine, shape);
+        return feedAll(joined(key, second)) && same("read", machine, shape) && look();
     }
 
     private static byte[] joined(byte[]... parts) {
@@ -501,25 +568,6 @@ public final class ModelTest {
         private long byteAt(int i) {
             index(i >= 0 && i < result.length);
             return result[i] & 255;
-        }
-
-        String picture() {
-            StringBuilder told = new StringBuilder("result ").append(text(result)).append(" place ").append(place);
-            for (int machine = 0; machine < 2; machine++) {
-                for (int what = 0; what < 5; what++) {
-                    told.append(' ').append(state(machine, what));
-                }
-                told.append(" row ").append(text(machines[machine].row()));
-            }
-            return told.append(" tape ").append(tape.length).toString();
-        }
-
-        private static String text(byte[] bytes) {
-            StringBuilder told = new StringBuilder();
-            for (byte b : bytes) {
-                told.append((char) (b & 255));
-            }
-            return told.toString();
         }
     }
 }

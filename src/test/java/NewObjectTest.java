@@ -4,12 +4,13 @@ public final class NewObjectTest {
         bothMachinesAreAsAtFirst();
         nothingIsThere();
         objectsShareNothing();
+        allOf512CallsAnswer();
         Probe.due("NONE", TwinKeepers.NONE, -1);
         Probe.end();
     }
 
     private static void bothMachinesAreAsAtFirst() {
-        TwinKeepers x = new TwinKeepers();
+        Keeper x = new Keeper();
         int[] want = {0, 0, 0, 8, 0};
         for (int machine = 0; machine < 2; machine++) {
             for (int what = 0; what < want.length; what++) {
@@ -21,7 +22,7 @@ public final class NewObjectTest {
     }
 
     private static void nothingIsThere() {
-        TwinKeepers x = new TwinKeepers();
+        Keeper x = new Keeper();
         Probe.due("place()", x.place(), 0);
         Probe.refused("byteAt(0)", Probe.INDEX, x, y -> y.byteAt(0));
         Probe.refused("session(0, 0, 0)", Probe.INDEX, x, y -> y.session(0, 0, 0));
@@ -30,11 +31,22 @@ public final class NewObjectTest {
     }
 
     private static void objectsShareNothing() {
-        TwinKeepers one = new TwinKeepers();
-        TwinKeepers other = new TwinKeepers();
+        Keeper one = new Keeper();
+        Keeper other = new Keeper();
         one.open(0, 5);
         Probe.put(one, 0, 6, 5, 1, "key", "value");
         one.feed(1, 8);
-        Probe.due("the other object", Probe.picture(other), Probe.picture(new TwinKeepers()));
+        Probe.due("the other object", Probe.picture(other), Probe.picture(new Keeper()));
+    }
+
+    /** "An object is used for at most 512 calls": the last of them is answered like the others. */
+    private static void allOf512CallsAnswer() {
+        Keeper x = new Keeper();
+        Probe.due("the first call", x.open(0, 1), 1);
+        for (int i = 1; i <= 255; i++) {
+            Probe.due("feed", x.feed(i % 128, 1), 1);
+            Probe.due("run", x.run(0, 1 + i, 1, i, 8), 0);
+        }
+        Probe.due("the 512th call", x.row(0), 8 + 18 + 1 + 128 * 4);
     }
 }

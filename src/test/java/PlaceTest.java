@@ -1,7 +1,7 @@
 /** Promise 12: place. */
 public final class PlaceTest {
     public static void main(String[] args) {
-        TwinKeepers x = new TwinKeepers();
+        Keeper x = new Keeper();
         is(x, "at first", 0);
         x.open(0, 10);
         is(x, "open", 10);
@@ -22,11 +22,11 @@ public final class PlaceTest {
         Probe.end();
     }
 
-    private static void is(TwinKeepers x, String behind, int want) {
+    private static void is(Keeper x, String behind, int want) {
         Probe.due("place() behind " + behind, x.place(), want);
     }
 
-    private static void callsThatLeaveIt(TwinKeepers x) {
+    private static void callsThatLeaveIt(Keeper x) {
         Probe.get(x, 0, "k");
         x.row(0);
         x.key(0, 0, 0);
@@ -38,7 +38,7 @@ public final class PlaceTest {
         is(x, "calls that leave it", 3);
     }
 
-    private static void callsThatThrow(TwinKeepers x) {
+    private static void callsThatThrow(Keeper x) {
         Probe.refused("open(1, 1)", Probe.ARGUMENT, x, y -> y.open(1, 1));
         Probe.refused("open(2, 100)", Probe.INDEX, x, y -> y.open(2, 100));
         Probe.refused("run", Probe.ARGUMENT, x, y -> y.run(1, 100, 10, 9, 16));

@@ -1,9 +1,9 @@
 import java.nio.charset.StandardCharsets;
 
-/** What the tests share: notes of what is not as due, and calls with rows of bytes told as texts (a character a byte). */
+/** What the tests share: notes of what is not as due; calls with rows of bytes told as texts, a character a byte. */
 final class Probe {
     interface Act {
-        void on(TwinKeepers x);
+        void on(Keeper x);
     }
 
     static final int PUT = 0;
@@ -32,7 +32,7 @@ final class Probe {
     }
 
     /** The exception is of the very class that is due. */
-    static void refused(String what, Class<? extends RuntimeException> want, TwinKeepers x, Act act) {
+    static void refused(String what, Class<? extends RuntimeException> want, Keeper x, Act act) {
         due(what, thrownBy(x, act), want.getSimpleName());
     }
 
@@ -48,8 +48,8 @@ final class Probe {
 
     private static void refusedAndLike(String what, Class<? extends RuntimeException> want, Act history, Act act,
             Act instead) {
-        TwinKeepers had = new TwinKeepers();
-        TwinKeepers hadNot = new TwinKeepers();
+        Keeper had = new Keeper();
+        Keeper hadNot = new Keeper();
         history.on(had);
         history.on(hadNot);
         refused(what, want, had, act);
@@ -57,11 +57,11 @@ final class Probe {
         due("the picture behind " + what, picture(had), picture(hadNot));
     }
 
-    static void emptyTape(TwinKeepers x) {
+    static void emptyTape(Keeper x) {
         thrownBy(x, y -> y.read(0, -1));
     }
 
-    static String thrownBy(TwinKeepers x, Act act) {
+    static String thrownBy(Keeper x, Act act) {
         try {
             act.on(x);
         } catch (RuntimeException e) {
@@ -96,7 +96,7 @@ final class Probe {
         return told.toString();
     }
 
-    static void feedText(TwinKeepers x, String text) {
+    static void feedText(Keeper x, String text) {
         byte[] bytes = text.getBytes(StandardCharsets.ISO_8859_1);
         for (int from = 0; from < bytes.length; from += 8) {
             int n = Math.min(8, bytes.length - from);
@@ -112,37 +112,37 @@ final class Probe {
         return operation + 8 * key.length() + 512 * expected.length();
     }
 
-    static int put(TwinKeepers x, int machine, int place, int session, int serial, String key, String value) {
+    static int put(Keeper x, int machine, int place, int session, int serial, String key, String value) {
         feedText(x, key + value);
         return x.run(machine, place, session, serial, shape(PUT, key, ""));
     }
 
-    static int swap(TwinKeepers x, int machine, int place, int session, int serial, String key, String... values) {
+    static int swap(Keeper x, int machine, int place, int session, int serial, String key, String... values) {
         feedText(x, key + values[0] + values[1]);
         return x.run(machine, place, session, serial, shape(SWAP, key, values[0]));
     }
 
-    static int remove(TwinKeepers x, int machine, int place, int session, int serial, String key) {
+    static int remove(Keeper x, int machine, int place, int session, int serial, String key) {
         feedText(x, key);
         return x.run(machine, place, session, serial, shape(REMOVE, key, ""));
     }
 
-    static int get(TwinKeepers x, int machine, String key) {
+    static int get(Keeper x, int machine, String key) {
         feedText(x, key);
         return x.read(machine, shape(GET, key, ""));
     }
 
-    static int count(TwinKeepers x, int machine, String low, String high) {
+    static int count(Keeper x, int machine, String low, String high) {
         feedText(x, low + high);
         return x.read(machine, shape(COUNT, low, ""));
     }
 
-    static int next(TwinKeepers x, int machine, String key) {
+    static int next(Keeper x, int machine, String key) {
         feedText(x, key);
         return x.read(machine, shape(NEXT, key, ""));
     }
 
-    static String result(TwinKeepers x) {
+    static String result(Keeper x) {
         StringBuilder told = new StringBuilder();
         for (int i = 0; i < 20000; i++) {
             try {
@@ -154,13 +154,13 @@ final class Probe {
         return "no end";
     }
 
-    static String rowOf(TwinKeepers x, int machine) {
+    static String rowOf(Keeper x, int machine) {
         x.row(machine);
         return result(x);
     }
 
-    /** All that calls can tell, at the cost of the result and of the tape. */
-    static String picture(TwinKeepers x) {
+    /** All that calls can tell, at the cost of all that the object holds. */
+    static String picture(Keeper x) {
         StringBuilder told = new StringBuilder();
         told.append("result ").append(result(x)).append(" place ").append(x.place());
         for (int machine = 0; machine < 2; machine++) {
@@ -172,12 +172,26 @@ final class Probe {
         return told.append(" tape ").append(tapeOf(x)).toString();
     }
 
-    private static int tapeOf(TwinKeepers x) {
+    /** How many bytes the tape has, and which, when they and one more can be the key and the value of a PUT. */
+    private static String tapeOf(Keeper x) {
+        int fed;
         try {
-            return x.feed(0, 1) - 1;
+            fed = x.feed(0, 1);
         } catch (IllegalStateException e) {
-            return 300;
+            return "300";
         }
+        int machine = x.state(0, 4) < x.state(1, 4) ? 0 : 1;
+        int place = x.state(machine, 4);
+        if (fed > 132 || place > 999998) {
+            return String.valueOf(fed - 1);
+        }
+        x.clear(machine);
+        x.open(machine, place + 1);
+        x.run(machine, place + 2, place + 1, 1, 8 * Math.min(fed, 32));
+        x.key(machine, 0, 0);
+        String key = result(x);
+        x.key(machine, 0, 1);
+        return (fed - 1) + " " + key + result(x);
     }
 
     /** A number as a row tells it. */
@@ -187,6 +201,17 @@ final class Probe {
             told.append((char) ((value >>> (8 * i)) & 255));
         }
         return told.toString();
+    }
+
+    /** A session as a row tells it. */
+    static String sessionRow(int number, int used, int serial, int place, String answer) {
+        return number(number, 4) + number(used, 4) + number(serial, 4) + number(place, 4) + number(answer.length(), 2)
+                + answer;
+    }
+
+    /** A key with its value as a row tells it. */
+    static String keyRow(String key, String value) {
+        return number(key.length(), 1) + number(value.length(), 2) + key + value;
     }
 
     static String many(char c, int n) {

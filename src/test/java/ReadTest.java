@@ -11,8 +11,8 @@ public final class ReadTest {
         Probe.end();
     }
 
-    private static TwinKeepers filled() {
-        TwinKeepers x = new TwinKeepers();
+    private static Keeper filled() {
+        Keeper x = new Keeper();
         x.open(0, 1);
         String[] keys = {"b", "bb", "d", "\u00f0", "\0"};
         for (int i = 0; i < keys.length; i++) {
@@ -22,7 +22,7 @@ public final class ReadTest {
         return x;
     }
 
-    private static void answer(TwinKeepers x, String what, int bytes, String want) {
+    private static void answer(Keeper x, String what, int bytes, String want) {
         Probe.due("bytes of " + what, bytes, want.length());
         Probe.due("result of " + what, Probe.result(x), want);
         Probe.due("the tape behind " + what, x.feed(0, 1), 1);
@@ -30,7 +30,7 @@ public final class ReadTest {
     }
 
     private static void getting() {
-        TwinKeepers x = filled();
+        Keeper x = filled();
         answer(x, "GET b", Probe.get(x, 0, "b"), "\1value0");
         answer(x, "GET bb", Probe.get(x, 0, "bb"), "\1value1");
         answer(x, "GET f0", Probe.get(x, 0, "\u00f0"), "\1value3");
@@ -42,7 +42,7 @@ public final class ReadTest {
     }
 
     private static void counting() {
-        TwinKeepers x = filled();
+        Keeper x = filled();
         answer(x, "COUNT b c", Probe.count(x, 0, "b", "c"), "\2\0");
         answer(x, "COUNT b bb", Probe.count(x, 0, "b", "bb"), "\1\0");
         answer(x, "COUNT b bbb", Probe.count(x, 0, "b", "bbb"), "\2\0");
@@ -54,7 +54,7 @@ public final class ReadTest {
         answer(x, "COUNT e b", Probe.count(x, 0, "e", "b"), "\0\0");
         answer(x, "COUNT bb b", Probe.count(x, 0, "bb", "b"), "\0\0");
         answer(x, "COUNT of machine 1", Probe.count(x, 1, "\0", "\u00ff"), "\0\0");
-        TwinKeepers y = new TwinKeepers();
+        Keeper y = new Keeper();
         y.open(1, 1);
         for (int i = 0; i < 128; i++) {
             Probe.put(y, 1, 2 + i, 1, 1 + i, "" + (char) i, "");
@@ -63,7 +63,7 @@ public final class ReadTest {
     }
 
     private static void next() {
-        TwinKeepers x = filled();
+        Keeper x = filled();
         answer(x, "NEXT b", Probe.next(x, 0, "b"), "\1\1bvalue0");
         answer(x, "NEXT b0", Probe.next(x, 0, "b\0"), "\1\2bbvalue1");
         answer(x, "NEXT bbb", Probe.next(x, 0, "bbb"), "\1\1dvalue2");
@@ -76,7 +76,7 @@ public final class ReadTest {
     }
 
     private static void edgesOfSizes() {
-        TwinKeepers x = new TwinKeepers();
+        Keeper x = new Keeper();
         x.open(0, 1);
         String longKey = Probe.many('k', 32);
         String longValue = Probe.many('v', 100);
@@ -143,7 +143,7 @@ public final class ReadTest {
     }
 
     private static void onlyTheResultChanges() {
-        TwinKeepers x = filled();
+        Keeper x = filled();
         String row = Probe.rowOf(x, 0);
         Probe.get(x, 0, "b");
         Probe.count(x, 0, "b", "e");

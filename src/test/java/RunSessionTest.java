@@ -11,14 +11,14 @@ public final class RunSessionTest {
         Probe.end();
     }
 
-    private static void checkSession(TwinKeepers x, int k, int... want) {
+    private static void checkSession(Keeper x, int k, int... want) {
         for (int what = 0; what < want.length; what++) {
             Probe.due("session(0, " + k + ", " + what + ")", x.session(0, k, what), want[what]);
         }
     }
 
     private static void doneOnceHoweverOftenItComes() {
-        TwinKeepers x = new TwinKeepers();
+        Keeper x = new Keeper();
         x.open(0, 1);
         Probe.due("put", Probe.put(x, 0, 2, 1, 1, "k", "one"), 0);
         Probe.due("put", Probe.put(x, 0, 3, 1, 2, "k", "two"), 0);
@@ -34,7 +34,7 @@ public final class RunSessionTest {
     }
 
     private static void theSerialOfANewSession() {
-        TwinKeepers x = new TwinKeepers();
+        Keeper x = new Keeper();
         x.open(0, 4);
         x.row(0);
         Probe.due("serial 0", Probe.put(x, 0, 8, 4, 0, "k", "v"), 1);
@@ -45,7 +45,7 @@ public final class RunSessionTest {
     }
 
     private static void belowTheSerial() {
-        TwinKeepers x = new TwinKeepers();
+        Keeper x = new Keeper();
         x.open(0, 1);
         Probe.put(x, 0, 2, 1, 5, "k", "v");
         Probe.get(x, 0, "k");
@@ -61,7 +61,7 @@ public final class RunSessionTest {
 
     private static void noSuchSession() {
         for (int session : new int[] {0, 2, 3, -1, Integer.MIN_VALUE, Integer.MAX_VALUE}) {
-            TwinKeepers x = new TwinKeepers();
+            Keeper x = new Keeper();
             x.open(0, 1);
             x.open(1, 2);
             x.row(0);
@@ -77,7 +77,7 @@ public final class RunSessionTest {
     }
 
     private static void serialsMayLeap() {
-        TwinKeepers x = new TwinKeepers();
+        Keeper x = new Keeper();
         x.open(0, 1);
         Probe.due("serial 9", Probe.put(x, 0, 2, 1, 9, "k", "v"), 0);
         Probe.due("the greatest serial", Probe.put(x, 0, 3, 1, Integer.MAX_VALUE, "k", "w"), 0);
@@ -87,7 +87,7 @@ public final class RunSessionTest {
     }
 
     private static void theAnswerThatIsTwoCountsAsDone() {
-        TwinKeepers x = new TwinKeepers();
+        Keeper x = new Keeper();
         x.open(0, 1);
         for (int i = 0; i < 128; i++) {
             Probe.put(x, 0, 2 + i, 1, 1 + i, "" + (char) i, "");
@@ -102,7 +102,7 @@ public final class RunSessionTest {
     }
 
     private static void sessionsAreApart() {
-        TwinKeepers x = new TwinKeepers();
+        Keeper x = new Keeper();
         x.open(0, 1);
         x.open(0, 2);
         Probe.due("in 1", Probe.put(x, 0, 3, 1, 1, "k", "of one"), 0);

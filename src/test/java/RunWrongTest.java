@@ -11,7 +11,7 @@ public final class RunWrongTest {
         Probe.end();
     }
 
-    private static void history(TwinKeepers x) {
+    private static void history(Keeper x) {
         x.open(0, 10);
         Probe.put(x, 0, 11, 10, 1, "k", "value");
         x.open(1, 3);
@@ -19,7 +19,7 @@ public final class RunWrongTest {
         Probe.feedText(x, "kvw");
     }
 
-    private static void bare(TwinKeepers x) {
+    private static void bare(Keeper x) {
         x.open(0, 10);
         Probe.put(x, 0, 11, 10, 1, "k", "value");
         Probe.get(x, 0, "k");
@@ -53,7 +53,7 @@ public final class RunWrongTest {
             refused(Probe.ARGUMENT, 0, place, 99, 2, 8);
         }
         refused(Probe.ARGUMENT, 1, 3, 3, 1, 8);
-        TwinKeepers x = new TwinKeepers();
+        Keeper x = new Keeper();
         history(x);
         Probe.due("the last place", x.run(0, 1000000, 10, 2, 8), 0);
         Probe.due("its place", x.place(), 1000000);
@@ -96,7 +96,7 @@ public final class RunWrongTest {
     }
 
     private static void wrongEvenWithoutASession() {
-        TwinKeepers x = new TwinKeepers();
+        Keeper x = new Keeper();
         x.feed(1, 2);
         Probe.refused("REMOVE with a value", Probe.ARGUMENT, x, y -> y.run(0, 1, 1, 1, 2 + 8));
         Probe.due("no place is taken", x.state(0, 4), 0);
@@ -110,7 +110,7 @@ public final class RunWrongTest {
         int[][] calls = {{0, 12, 10, 2, 8}, {0, 12, 10, 1, 8}, {0, 12, 10, 0, 8}, {0, 12, 99, 2, 8}};
         int[] want = {0, 1, 3, 2};
         for (int i = 0; i < calls.length; i++) {
-            TwinKeepers x = new TwinKeepers();
+            Keeper x = new Keeper();
             history(x);
             int[] a = calls[i];
             Probe.due("run " + want[i], x.run(a[0], a[1], a[2], a[3], a[4]), want[i]);

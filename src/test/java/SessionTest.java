@@ -8,7 +8,7 @@ public final class SessionTest {
         Probe.end();
     }
 
-    private static void fill(TwinKeepers x) {
+    private static void fill(Keeper x) {
         x.open(1, 10);
         x.open(1, 20);
         Probe.put(x, 1, 21, 10, 7, "key", "value");
@@ -19,7 +19,7 @@ public final class SessionTest {
     }
 
     private static void whatIsAsked() {
-        TwinKeepers x = new TwinKeepers();
+        Keeper x = new Keeper();
         fill(x);
         int[][] want = {{10, 24, 8, 22, 6}, {20, 23, 0, 20, 0}};
         for (int k = 0; k < 2; k++) {
@@ -36,7 +36,7 @@ public final class SessionTest {
     }
 
     private static void byTheirNumbers() {
-        TwinKeepers x = new TwinKeepers();
+        Keeper x = new Keeper();
         for (int i = 1; i <= 16; i++) {
             x.open(0, 10 * i);
         }
@@ -66,8 +66,8 @@ public final class SessionTest {
     }
 
     private static void nothingChanges() {
-        TwinKeepers x = new TwinKeepers();
-        TwinKeepers y = new TwinKeepers();
+        Keeper x = new Keeper();
+        Keeper y = new Keeper();
         fill(x);
         fill(y);
         x.session(1, 1, 3);

@@ -8,13 +8,13 @@ public final class StateTest {
         Probe.end();
     }
 
-    private static void is(TwinKeepers x, int machine, int... want) {
+    private static void is(Keeper x, int machine, int... want) {
         for (int what = 0; what < want.length; what++) {
             Probe.due("state(" + machine + ", " + what + ")", x.state(machine, what), want[what]);
         }
     }
 
-    private static void fill(TwinKeepers x) {
+    private static void fill(Keeper x) {
         x.open(0, 5);
         x.open(0, 6);
         Probe.put(x, 0, 7, 5, 1, "key", "value");
@@ -23,7 +23,7 @@ public final class StateTest {
     }
 
     private static void whatIsAsked() {
-        TwinKeepers x = new TwinKeepers();
+        Keeper x = new Keeper();
         is(x, 0, 0, 0, 0, 8, 0);
         fill(x);
         is(x, 0, 2, 2, 3, 8 + 19 + 18 + 11 + 28, 8);
@@ -34,7 +34,7 @@ public final class StateTest {
     }
 
     private static void theGreatestPlaceCountsWhateverIsAnswered() {
-        TwinKeepers x = new TwinKeepers();
+        Keeper x = new Keeper();
         x.open(0, 5);
         Probe.put(x, 0, 10, 5, 3, "k", "");
         Probe.due("behind 0", x.state(0, 4), 10);
@@ -57,8 +57,8 @@ public final class StateTest {
     }
 
     private static void nothingChanges() {
-        TwinKeepers x = new TwinKeepers();
-        TwinKeepers y = new TwinKeepers();
+        Keeper x = new Keeper();
+        Keeper y = new Keeper();
         fill(x);
         fill(y);
         for (int what = 0; what < 5; what++) {
