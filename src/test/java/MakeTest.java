@@ -94,6 +94,18 @@ public final class MakeTest {
         Probe.due("a place alone is not of the row", x.make(0, 1), false);
         Probe.due("but it comes along", x.state(1, 4), 10);
         sessionsAloneDiffer();
+        numbersAloneDiffer();
+    }
+
+    private static void numbersAloneDiffer() {
+        Keeper x = new Keeper();
+        x.open(0, 1);
+        x.open(1, 2);
+        Probe.put(x, 0, 5, 1, 1, "k", "v");
+        Probe.put(x, 1, 5, 2, 1, "k", "v");
+        Probe.due("numbers alone differ", x.make(0, 1), true);
+        Probe.due("the number", x.session(1, 0, 0), 1);
+        Probe.due("nothing differs", x.make(1, 0), false);
     }
 
     /** Sessions with the same answers, 0, beside other maps. */
