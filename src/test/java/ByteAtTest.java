@@ -8,6 +8,7 @@ public final class ByteAtTest {
         Probe.end();
     }
 
+    /** "Its value is 0 .. 255". */
     private static void allBytes() {
         Keeper x = new Keeper();
         x.open(0, 1);
@@ -24,6 +25,7 @@ public final class ByteAtTest {
         }
     }
 
+    /** "IndexOutOfBoundsException, when there is none." */
     private static void noSuchByte() {
         for (int i : new int[] {-1, 2, 3, 255, 256, Integer.MIN_VALUE, Integer.MAX_VALUE}) {
             Probe.refusedAndSame("byteAt(" + i + ")", Probe.INDEX, x -> {

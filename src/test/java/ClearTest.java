@@ -16,6 +16,7 @@ public final class ClearTest {
         x.open(machine, 9);
     }
 
+    /** "A machine is as at first, but for the places before". */
     private static void asAtFirstButForThePlaces() {
         for (int machine = 0; machine < 2; machine++) {
             int m = machine;
@@ -36,6 +37,7 @@ public final class ClearTest {
         }
     }
 
+    /** "How many keys it had": none, and 128. */
     private static void howManyKeys() {
         Keeper x = new Keeper();
         Probe.due("clear of a new one", x.clear(0), 0);
@@ -70,6 +72,7 @@ public final class ClearTest {
         Probe.due("the other's row", Probe.rowOf(x, 1), row);
     }
 
+    /** "As for row()." */
     private static void wrongMachines() {
         for (int machine : new int[] {-1, 2, Integer.MIN_VALUE, Integer.MAX_VALUE}) {
             Probe.refusedAndSame("clear(" + machine + ")", Probe.INDEX, x -> {

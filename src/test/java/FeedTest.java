@@ -10,6 +10,7 @@ public final class FeedTest {
         Probe.end();
     }
 
+    /** "The n lowest bytes of eight come behind the tape, the lowest first". */
     private static void lowestBytesComeFirst() {
         Keeper x = new Keeper();
         x.open(0, 1);
@@ -20,6 +21,7 @@ public final class FeedTest {
         Probe.due("the bytes", Probe.result(x), "\u0010\u0020\u0030\u0040\u0050\u0060\u0070\u0080\u00fe\u00ff");
     }
 
+    /** "N .. 1 .. 8": each right count brings just so many. */
     private static void onlySoManyBytesCome() {
         for (int n = 1; n <= 8; n++) {
             Keeper x = new Keeper();
@@ -31,6 +33,7 @@ public final class FeedTest {
         }
     }
 
+    /** "IllegalArgumentException, when n is not 1 .. 8": 0, 9 and those far off. */
     private static void wrongCountsAreRefused() {
         Probe.Act[] histories = {x -> { }, x -> x.feed(7, 3), FeedTest::fill};
         for (Probe.Act history : histories) {
@@ -47,6 +50,7 @@ public final class FeedTest {
         Probe.due("the last feed", x.feed(0, 4), 300);
     }
 
+    /** "A row of at most 300 bytes". */
     private static void threeHundredAndNoMore() {
         Probe.refusedAndSame("feed(0, 1) on a full tape", Probe.STATE, FeedTest::fill, x -> x.feed(0, 1));
         Probe.refusedAndSame("feed(0, 8) on a full tape", Probe.STATE, FeedTest::fill, x -> x.feed(0, 8));

@@ -58,6 +58,7 @@ public final class KeyTest {
                 x -> x.key(machine, k, what));
     }
 
+    /** "IndexOutOfBoundsException, when there is no such machine, key, or what." */
     private static void wrongOnes() {
         for (int bad : new int[] {-1, 3, 128, Integer.MIN_VALUE, Integer.MAX_VALUE}) {
             refused(bad, 0, 0);

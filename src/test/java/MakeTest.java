@@ -72,6 +72,7 @@ public final class MakeTest {
         Probe.due("make again behind " + what, x.make(1, 0), false);
     }
 
+    /** "Whether their rows were different". */
     private static void anythingOfTheRowMakesThemDifferent() {
         differs("open", x -> x.open(0, 7));
         differs("being used", x -> Probe.put(x, 0, 7, 1, 0, "k", ""));
@@ -158,6 +159,7 @@ public final class MakeTest {
         Probe.due("its bytes", Probe.result(x), "\0");
     }
 
+    /** "Its greatest place is the greater one of both". */
     private static void greatestPlaces() {
         Keeper x = new Keeper();
         x.open(0, 100);
@@ -182,6 +184,7 @@ public final class MakeTest {
         Probe.due("open(1, 501)", x.open(1, 501), 1);
     }
 
+    /** "(Both may be one)". */
     private static void bothOne() {
         Keeper x = new Keeper();
         fill(x, 1);
@@ -207,6 +210,7 @@ public final class MakeTest {
         Probe.due("the tape", x.feed(1, 1), 7);
     }
 
+    /** "As for row()", for from and for to. */
     private static void wrongMachines() {
         int[][] pairs = {{0, 2}, {2, 0}, {-1, 0}, {0, -1}, {2, 2}, {-1, -1}, {1, Integer.MAX_VALUE},
             {Integer.MIN_VALUE, 1}};

@@ -9,6 +9,7 @@ public final class NewObjectTest {
         Probe.end();
     }
 
+    /** "Two machines as at first." */
     private static void bothMachinesAreAsAtFirst() {
         Keeper x = new Keeper();
         int[] want = {0, 0, 0, 8, 0};
@@ -21,6 +22,7 @@ public final class NewObjectTest {
         Probe.due("make(0, 1) of new ones", x.make(0, 1), false);
     }
 
+    /** "THE TAPE .. empty at first. THE RESULT .. empty at first"; place() is "0 before". */
     private static void nothingIsThere() {
         Keeper x = new Keeper();
         Probe.due("place()", x.place(), 0);

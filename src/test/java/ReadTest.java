@@ -97,6 +97,7 @@ public final class ReadTest {
         }, x -> x.read(0, shape));
     }
 
+    /** "READING likewise (3 .. 5; the tape has the key, for COUNT the first and then the second one)". */
     private static void wrongShapesAndTapes() {
         for (int kind : new int[] {0, 1, 2, 6, 7}) {
             refused("k", kind + 8);

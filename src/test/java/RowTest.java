@@ -53,6 +53,7 @@ public final class RowTest {
         Probe.due("the result behind other calls", Probe.result(x), before);
     }
 
+    /** "IndexOutOfBoundsException, when there is no such machine." */
     private static void wrongMachines() {
         for (int machine : new int[] {-1, 2, Integer.MIN_VALUE, Integer.MAX_VALUE}) {
             Probe.refusedAndSame("row(" + machine + ")", Probe.INDEX, x -> {

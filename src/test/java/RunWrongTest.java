@@ -37,6 +37,7 @@ public final class RunWrongTest {
         }, x -> x.run(0, 12, 10, 2, shape));
     }
 
+    /** "IndexOutOfBoundsException, when there is no such machine". */
     private static void wrongMachines() {
         for (int machine : new int[] {-1, 2, Integer.MIN_VALUE, Integer.MAX_VALUE}) {
             refused(Probe.INDEX, machine, 12, 10, 2, 8);
@@ -46,6 +47,7 @@ public final class RunWrongTest {
         }
     }
 
+    /** "IllegalArgumentException, when place is as for open()". */
     private static void wrongPlaces() {
         for (int place : new int[] {0, -1, 1, 10, 11, 1000001, Integer.MIN_VALUE, Integer.MAX_VALUE}) {
             refused(Probe.ARGUMENT, 0, place, 10, 2, 8);
@@ -59,12 +61,14 @@ public final class RunWrongTest {
         Probe.due("its place", x.place(), 1000000);
     }
 
+    /** "Serial below 0": 0 is right, see RunSessionTest. */
     private static void wrongSerials() {
         refused(Probe.ARGUMENT, 0, 12, 10, -1, 8);
         refused(Probe.ARGUMENT, 0, 12, 10, Integer.MIN_VALUE, 8);
         refused(Probe.ARGUMENT, 0, 12, 99, -1, 8);
     }
 
+    /** "Or shape and tape are not so (operations 0 .. 2, sizes of keys and values as told)": the shape. */
     private static void wrongShapes() {
         int[] shapes = {-1, -8, Integer.MIN_VALUE, Integer.MIN_VALUE + 8, Integer.MAX_VALUE, 3 + 8, 4 + 8, 5 + 8,
             6 + 8, 7 + 8, 0, 1, 2, 8 * 33, 8 * 63, 1 + 8 * 33, 2 + 8 * 33, 8 + 512, 2 + 8 + 512, 8 + 512 * 101,
@@ -74,6 +78,7 @@ public final class RunWrongTest {
         }
     }
 
+    /** ".. shape and tape are not so ..": the tape. */
     private static void wrongTapes() {
         refusedWithTape("", 8);
         refusedWithTape("", 0);
@@ -106,6 +111,7 @@ public final class RunWrongTest {
         Probe.due("its place is taken", x.state(0, 4), 1);
     }
 
+    /** "The tape (which is empty then, in any case)". */
     private static void theTapeIsEmptyInAnyCase() {
         int[][] calls = {{0, 12, 10, 2, 8}, {0, 12, 10, 1, 8}, {0, 12, 10, 0, 8}, {0, 12, 99, 2, 8}};
         int[] want = {0, 1, 3, 2};

@@ -54,6 +54,7 @@ public final class SessionTest {
                 x -> x.session(machine, k, what));
     }
 
+    /** "IndexOutOfBoundsException, when there is no such machine, session, or what." */
     private static void wrongOnes() {
         for (int bad : new int[] {-1, 2, 5, 16, Integer.MIN_VALUE, Integer.MAX_VALUE}) {
             refused(bad, 0, 0);

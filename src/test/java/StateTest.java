@@ -48,6 +48,7 @@ public final class StateTest {
         Probe.due("the other machine's", x.state(1, 4), 0);
     }
 
+    /** "IndexOutOfBoundsException, when there is no such machine or what." */
     private static void wrongOnes() {
         for (int bad : new int[] {-1, 5, 6, Integer.MIN_VALUE, Integer.MAX_VALUE}) {
             Probe.refusedAndSame("state(0, " + bad + ")", Probe.INDEX, StateTest::fill, x -> x.state(0, bad));
